@@ -281,7 +281,7 @@ public final class ThreePrimes {
                     + FIRST * Modulo.remainder(missing * INVERSE_OF_FIRST_MODULO_SECOND, SECOND);
         }
 
-        /** How many times the product of the first two primes goes into the number, rounded down. */
+        /** How many times the product of the first two primes goes into it, rounded down. */
         private long timesOfFirstTwo(int i, long moduloFirstTwo) {
             long missing = (remainders[2][i] - moduloFirstTwo) % THIRD;
             long times = Modulo.remainder(missing * INVERSE_OF_FIRST_TWO_MODULO_THIRD, THIRD);

@@ -28,6 +28,7 @@ public final class PromisesTest {
         promise10Low();
         promise11High();
         promise10And11Extremes();
+        promise10To12NearProductsOfPrimes();
         promise12Rest();
         promise13Value();
         promise14Back();
@@ -382,6 +383,26 @@ public final class PromisesTest {
             int p = PRIMES[prime];
             Check.equal(what + ": rest(" + prime + ", " + i + ")",
                     Math.floorMod((1L << 62) % p * times, p), x.rest(prime, i));
+        }
+    }
+
+    /** Where the remainders modulo two of the primes are 0 or next to it. */
+    private static void promise10To12NearProductsOfPrimes() {
+        ThreePrimes x = new ThreePrimes();
+        for (int one : PRIMES) {
+            for (int other : PRIMES) {
+                for (int more = -1; more <= 1; more++) {
+                    fillA(x, one, more);
+                    fillB(x, other, 1);
+                    long product = (long) one * other;
+                    x.fold(0);
+                    checkResults("10 to 12 near a product", x, product + more, one + (long) more * other);
+                    fillB(x, -other, 1);
+                    x.fold(0);
+                    checkResults("10 to 12 near minus a product", x,
+                            -product + more, one - (long) more * other);
+                }
+            }
         }
     }
 
