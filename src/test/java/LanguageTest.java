@@ -1,14 +1,21 @@
+import java.io.IOException;
 import java.lang.management.ManagementFactory;
 import java.lang.reflect.Constructor;
 import java.lang.reflect.Field;
 import java.lang.reflect.Method;
 import java.lang.reflect.Modifier;
+import java.nio.file.Files;
+import java.nio.file.Path;
+import java.util.ArrayList;
 import java.util.Arrays;
 import java.util.HashSet;
+import java.util.List;
 import java.util.Set;
 import java.util.TreeSet;
+import java.util.regex.Matcher;
+import java.util.regex.Pattern;
 
-/** What ../shared/LANGUAGE.md asks of the face (rule 1), of static fields (5) and of the room (12). */
+/** What ../shared/LANGUAGE.md asks, as far as reflection, single words or the room taken show it. */
 public final class LanguageTest {
     private static final Set<String> FACE = new TreeSet<>(Arrays.asList(
             "void size(int) IllegalArgumentException",
@@ -28,19 +35,36 @@ public final class LanguageTest {
             "int product(int,int,int) IllegalArgumentException",
             "int root(int,int) IllegalArgumentException"));
 
-    /** A run of calls may take 7.3 million elements; 512 calls of ours take none, so this is ample. */
-    private static final long MOST_BYTES_OF_CALLS = 64 * 1024;
+    private static final Path SOURCE = Path.of("src", "main", "java", "ThreePrimes.java");
+
+    /** Words that the rules leave out, with the number of their rule; 0: the lines before rule 1. */
+    private static final String[][] LEFT_OUT = {
+        {"0", "\\bpackage\\b"},
+        {"1", "\\bprotected\\b"},
+        {"2", "->"},
+        {"2", "::"},
+        {"4", "\\bimport\\b(?! java\\.util\\.(Arrays|ArrayList|List|Iterator|NoSuchElementException);)"},
+        {"4", "\\w+Exact\\("},
+        {"5", "\\bstatic\\s*\\{"},
+        {"6", "\\b(finally|synchronized|assert)\\b"},
+        {"6", "\\b(getMessage|equals|hashCode|toString)\\("},
+        {"6", "\\bthrow\\b(?! new \\w+\\(\\);)"},
+        {"13", "\\b(System\\.(?!arraycopy\\()|Thread\\b|Random\\b|Runtime\\b)"},
+    };
+
+    private static final int MOST_PARAMETERS = 7;
+    private static final int MOST_CLASSES = 12;
+    private static final int MOST_FIELDS = 20;
+
+    /** Some room for what the virtual machine does; a call that makes one object takes twice that. */
+    private static final long MOST_BYTES_OF_CALLS = 256;
     private static final long MOST_BYTES_OF_OBJECT = 64 * 1024;
 
     public static void main(String[] args) {
-        faceIsTheDocuments();
-        noOtherMemberIsSeen();
-        namesOfTheFaceAreUsedOnce();
-        staticFieldsAreFinal();
-        callsMakeNoObjects();
-        Check.end();
+        Check.runTestsOf(LanguageTest.class);
     }
 
+    /** Rule 1. */
     private static void faceIsTheDocuments() {
         Set<String> seen = new TreeSet<>();
         for (Method method : ThreePrimes.class.getDeclaredMethods()) {
@@ -71,6 +95,7 @@ public final class LanguageTest {
         return text.toString();
     }
 
+    /** Rule 1. */
     private static void noOtherMemberIsSeen() {
         for (Method method : ThreePrimes.class.getDeclaredMethods()) {
             int modifiers = method.getModifiers();
@@ -87,6 +112,7 @@ public final class LanguageTest {
         }
     }
 
+    /** Rule 1. */
     private static void namesOfTheFaceAreUsedOnce() {
         Set<String> names = new HashSet<>();
         for (String method : FACE) {
@@ -103,23 +129,77 @@ public final class LanguageTest {
         }
     }
 
+    /** Rule 5. */
     private static void staticFieldsAreFinal() {
-        for (Field field : ThreePrimes.class.getDeclaredFields()) {
-            Check.that(field + " is static and not final", !Modifier.isStatic(field.getModifiers())
-                    || Modifier.isFinal(field.getModifiers()));
+        for (Class<?> type : classes()) {
+            for (Field field : type.getDeclaredFields()) {
+                Check.that(field + " is static and not final",
+                        !Modifier.isStatic(field.getModifiers())
+                                || Modifier.isFinal(field.getModifiers()));
+            }
         }
     }
 
+    /** Rule 11. */
+    private static void nothingIsTooLarge() {
+        Check.that("there are " + classes().size() + " classes", classes().size() <= MOST_CLASSES);
+        for (Class<?> type : classes()) {
+            long fields = Arrays.stream(type.getDeclaredFields())
+                    .filter(field -> !Modifier.isStatic(field.getModifiers()))
+                    .count();
+            Check.that(type + " has " + fields + " fields", fields <= MOST_FIELDS);
+            for (Method method : type.getDeclaredMethods()) {
+                Check.that(method + " has too many parameters",
+                        method.getParameterCount() <= MOST_PARAMETERS);
+            }
+        }
+    }
+
+    /** The class of the document and those inside it. */
+    private static List<Class<?>> classes() {
+        List<Class<?>> all = new ArrayList<>();
+        all.add(ThreePrimes.class);
+        for (int i = 0; i < all.size(); i++) {
+            all.addAll(Arrays.asList(all.get(i).getDeclaredClasses()));
+        }
+        return all;
+    }
+
+    private static void sourceKeepsToTheRules() throws IOException {
+        String code = codeAlone(Files.readString(SOURCE));
+        for (String[] leftOut : LEFT_OUT) {
+            Matcher found = Pattern.compile(leftOut[1]).matcher(code);
+            while (found.find()) {
+                Check.that("rule " + leftOut[0] + " leaves out " + lineAt(code, found.start()), false);
+            }
+        }
+        Check.that("no class is found in the source", code.contains("public final class ThreePrimes {"));
+    }
+
+    /** Comments and the texts of exceptions are free in their words. */
+    private static String codeAlone(String source) {
+        return source
+                .replaceAll("\"[^\"\n]*\"", "")
+                .replaceAll("//[^\n]*", "")
+                .replaceAll("(?s)/\\*.*?\\*/", "");
+    }
+
+    private static String lineAt(String code, int place) {
+        int end = code.indexOf('\n', place);
+        return code.substring(code.lastIndexOf('\n', place) + 1, end < 0 ? code.length() : end).trim();
+    }
+
+    /** Rule 12. */
     private static void callsMakeNoObjects() {
-        bytesOf(LanguageTest::useNewObject);
+        bytesOf(LanguageTest::usedObject);
         long ofObject = bytesOf(ThreePrimes::new);
         Check.that("a new object takes " + ofObject + " bytes", ofObject <= MOST_BYTES_OF_OBJECT);
-        long ofAll = bytesOf(LanguageTest::useNewObject);
+        long ofAll = bytesOf(LanguageTest::usedObject);
         Check.that("512 calls take " + (ofAll - ofObject) + " bytes",
                 ofAll - ofObject <= MOST_BYTES_OF_CALLS);
     }
 
-    private static void useNewObject() {
+    private static ThreePrimes usedObject() {
         ThreePrimes x = new ThreePrimes();
         for (int round = 0; round < 32; round++) {
             x.size(8);
@@ -139,6 +219,7 @@ public final class LanguageTest {
             x.product(0, 1, 1);
             x.root(0, 1);
         }
+        return x;
     }
 
     private static long bytesOf(Check.Call call) {
